@@ -15,7 +15,7 @@ public final class SheetFolder {
     private static final int MOST_BEAM_HUNDREDS = 20;
     private static final int SUBSETS = 1 << MAX_BENDS;
     private static final int STEP_CODES = 2 * MAX_BENDS;
-    private static final double GREATEST_RATIO = 9999.0;
+    private static final int GREATEST_RATIO = 9999;
 
     private final byte[] buffer = new byte[MAX_TEXT];
     private int buffered = 0;
