@@ -10,6 +10,7 @@ public final class OrdersTest {
         everyOrder();
         beams();
         turned();
+        askedBefore();
         wrongInputs();
         Check.end();
     }
@@ -182,6 +183,39 @@ public final class OrdersTest {
         Check.index("46 the bend first", () -> y.costIfTurned(3));
         y.unfold();
         Check.same("46 unfolded", y.costIfTurned(0) == SheetFolder.NONE, false);
+    }
+
+    /** What was reckoned for an earlier question must not answer for another state. */
+    private static void askedBefore() {
+        SheetFolder x = Check.folder(CHANNEL);
+        int[] best = {x.leastCost(), (int) x.orders()};
+        int[][] changes = {{0, 0, 30}, {0, 200, 60}, {1, 0, 600}, {1, 300, 9}, {2, 0, 400}, {2, 200, 9}, {3, 101, 9999},
+            {3, 0, 100}, {4, 51, 0}};
+        for (int[] c : changes) {
+            x.setTool(c[0], c[1], c[2]);
+            SheetFolder y = Check.folder(CHANNEL);
+            y.setTool(c[0], c[1], c[2]);
+            Check.same("37 after tool " + c[0], x.orders(), y.orders());
+            x.undo();
+            Check.same("37 after undo", x.orders(), best[1]);
+        }
+        x.setTool(0, 0, 30);
+        Check.same("37 a beam without depth", x.orders() > best[1], true);
+        x.undo();
+        x.setLeg(0, 150);
+        Check.same("38 the gauge changes", x.leastCost(), 3);
+        x.fold(0, 0);
+        Check.same("38 and both change", x.leastCost(), 5);
+        x.undo();
+        x.undo();
+        Check.same("38 after undo", x.leastCost(), best[0]);
+        SheetFolder z = Check.folder("leg 9;up 7;up 5;up 6;beam 0 0;table 0 0;wing 0 0;cost 3 2 3;");
+        z.fold(0, 1);
+        z.fold(2, 1);
+        Check.same("44 one more", z.mostBends(), 1);
+        z.unfold();
+        z.fold(2, 1);
+        Check.same("44 two more behind the same step", z.mostBends(), 2);
     }
 
     private static void wrongInputs() {

@@ -49,6 +49,8 @@ public final class ProfileTest {
     private static void springBack() {
         SheetFolder x = Check.folder("sheet 3 4 0;back 10 20;back 20 50;back 23 5;");
         Check.sameDouble("13 ratio", x.ratio(), 40.0 / 3);
+        Check.sameDouble("13 the thinnest sheet", Check.folder("sheet 1 200 0;").ratio(), 2000.0);
+        Check.sameDouble("13 the thickest sheet", Check.folder("sheet 60 7 0;").ratio(), 70.0 / 60);
         Check.sameDouble("14 springBack", x.springBack(), 20 + 30 * (40.0 / 3 - 10) / 10);
         Check.sameDouble("15 below", x.springBackFor(0.0), 20.0);
         Check.sameDouble("15 -0.0", x.springBackFor(-0.0), 20.0);

@@ -29,9 +29,14 @@ public final class TextTest {
         Check.same("1 gauge least", x.tool(3, 0), 0);
         Check.same("1 gauge most", x.tool(3, 1), 9999);
         Check.same("1 flange", x.tool(4, 0), 0);
+        Check.sameDouble("1 deduction", x.deduction(), 2.0 * 20 - 1.5708 * (10 + 0.4 * 10));
+        Check.sameDouble("1 ratio", x.ratio(), 10.0);
         Check.same("1 thickness", x.setSheet(10, 10, 40), 10);
         Check.same("1 flip", x.setCost(1, 1, 1), 1);
-        Check.sameDouble("1 deduction", x.deduction(), 2.0 * 20 - 1.5708 * (10 + 0.4 * 10));
+        SheetFolder y = Check.folder("leg 50;up 40;up 50;");
+        y.fold(0, 0);
+        Check.same("1 turn", y.costOf(1, 1), 1);
+        Check.same("1 move", y.costOf(1, 0), 1);
         Check.argument("1 empty buffer", () -> new SheetFolder().load(1));
         Check.same("1 empty text", new SheetFolder().load(0), 0);
         Check.same("constants", SheetFolder.NONE * 100 + SheetFolder.FULL * 10 + SheetFolder.BAD_TEXT, -123);
@@ -123,6 +128,8 @@ public final class TextTest {
     private static void otherTokens() {
         error("4", "legs 5;", 2, 0);
         error("4", "le 5;", 2, 0);
+        error("4", "keg 5;", 2, 0);
+        error("4", "azza 5;", 2, 0);
         error("4", "flang 5;", 2, 0);
         error("4", "5;", 2, 0);
         error("4", ";", 2, 0);
