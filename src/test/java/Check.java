@@ -1,5 +1,12 @@
+import java.util.function.Consumer;
+import java.util.function.Supplier;
+
 /** What the tests share: comparing answers, and feeding a text to a folder. */
 final class Check {
+    static final String NO_TOOLS = "beam 0 0;table 0 0;wing 0 0;";
+    /** Each leg is longer than all before it together, so the sheet never hits itself. */
+    static final String NINE_LEGS = "leg 1;up 2;down 4;up 8;down 16;up 32;down 64;up 128;down 256;" + NO_TOOLS;
+
     private static int wrong = 0;
 
     private Check() {
@@ -49,6 +56,14 @@ final class Check {
         sameText(call, got, kind.getSimpleName());
     }
 
+    /** The call throws just this, and the object goes on like a twin that was not called. */
+    static void refused(String call, Class<? extends RuntimeException> kind, Supplier<SheetFolder> make,
+            Consumer<SheetFolder> body) {
+        SheetFolder x = make.get();
+        thrown(call, kind, () -> body.accept(x));
+        sameText(call + " changes nothing", story(x), story(make.get()));
+    }
+
     private static void tell(String call, String got, String want) {
         wrong++;
         System.out.println(call + " answered " + got + ", due is " + want);
@@ -74,6 +89,23 @@ final class Check {
     static int load(SheetFolder x, String text) {
         feed(x, text);
         return x.load(text.length());
+    }
+
+    /** The text has this error, and an object that reads it keeps what it had. */
+    static void error(String call, String text, int kind, int position) {
+        SheetFolder x = new SheetFolder();
+        same(call + " load of \"" + text + "\"", load(x, text), SheetFolder.BAD_TEXT);
+        same(call + " errorKind of \"" + text + "\"", x.errorKind(), kind);
+        same(call + " errorPosition of \"" + text + "\"", x.errorPosition(), position);
+        same(call + " legs behind \"" + text + "\"", x.legs(), 0);
+    }
+
+    static void legal(String call, String text, int bends) {
+        SheetFolder x = new SheetFolder();
+        same(call + " load of \"" + text + "\"", load(x, text), bends);
+        same(call + " errorKind of \"" + text + "\"", x.errorKind(), 0);
+        same(call + " errorPosition of \"" + text + "\"", x.errorPosition(), SheetFolder.NONE);
+        same(call + " bends of \"" + text + "\"", x.bends(), bends);
     }
 
     static void feed(SheetFolder x, String text) {
@@ -128,5 +160,52 @@ final class Check {
         }
         all.append(" least ").append(x.leastCost()).append(" greatest ").append(x.greatestCost());
         return all.toString();
+    }
+
+    /**
+     * All that can be found out of an object, in one text; it is used up by that. An object that tells its story has
+     * some 150 of its 512 calls left for what was before.
+     */
+    static String story(SheetFolder x) {
+        StringBuilder all = new StringBuilder(picture(x));
+        all.append(" error ").append(x.errorKind()).append(" at ").append(x.errorPosition());
+        for (double ratio : new double[] {0.0, 6.5, 99.0, 9999.0}) {
+            all.append(' ').append(x.springBackFor(ratio));
+        }
+        all.append(" output \"");
+        for (int k = 0; tellsCharacter(x, k, all); k++) {
+            all.append(k % 10 == 9 ? "|" : "");
+        }
+        int fed = x.feed(0x20202020, 0x20202020, 0x20202020, 0x20202020, 0x20202020);
+        all.append("\" fed ").append(fed);
+        int left = x.undo();
+        while (left != SheetFolder.NONE) {
+            all.append(" undone, left ").append(left).append(": ").append(glance(x));
+            left = x.undo();
+        }
+        all.append(" the buffer: ").append(x.load(fed == SheetFolder.FULL ? 600 : fed));
+        all.append(' ').append(x.errorKind()).append(' ').append(x.errorPosition()).append(' ').append(x.flatLength());
+        return all.append(" emptied ").append(x.feed(0, 0, 0, 0, 0)).toString();
+    }
+
+    private static boolean tellsCharacter(SheetFolder x, int k, StringBuilder all) {
+        try {
+            all.append(x.written(k));
+            return true;
+        } catch (IndexOutOfBoundsException e) {
+            return false;
+        }
+    }
+
+    /** What tells most of the state in few calls. */
+    private static String glance(SheetFolder x) {
+        StringBuilder all = new StringBuilder();
+        all.append(x.flatLength()).append(' ').append(x.finishedWidth()).append('x').append(x.finishedHeight());
+        all.append(' ').append(x.deduction()).append(' ').append(x.ratio()).append(" made ").append(x.made());
+        all.append(" cost ").append(x.costSoFar()).append('+').append(x.leastCost()).append('/').append(x.greatestCost());
+        for (int tool = 0; tool < 5; tool++) {
+            all.append(' ').append(x.tool(tool, 0));
+        }
+        return all.append(" possible ").append(x.possible()).toString();
     }
 }

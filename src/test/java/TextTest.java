@@ -54,8 +54,8 @@ public final class TextTest {
         Check.same("2 leg 0", x.leg(0), 7);
         Check.same("2 leg 1", x.leg(1), 8);
         Check.same("2 leg 2", x.leg(2), 9);
-        error("2 bytes above 127", "leg 5;" + (char) 233, 1, 6);
-        error("2 the byte 255", "" + (char) 255, 1, 0);
+        Check.error("2 bytes above 127", "leg 5;" + (char) 233, 1, 6);
+        Check.error("2 the byte 255", "" + (char) 255, 1, 0);
     }
 
     private static void loading() {
@@ -98,72 +98,65 @@ public final class TextTest {
         Check.same("3 leg with zeros", y.leg(0), 7);
     }
 
-    private static void error(String call, String text, int kind, int position) {
-        SheetFolder x = new SheetFolder();
-        Check.same(call + " load of \"" + text + "\"", Check.load(x, text), SheetFolder.BAD_TEXT);
-        Check.same(call + " errorKind of \"" + text + "\"", x.errorKind(), kind);
-        Check.same(call + " errorPosition of \"" + text + "\"", x.errorPosition(), position);
-    }
-
     private static void illegalTokens() {
-        error("4", "flanges 5;", 1, 0);
-        error("4", "leg 5;   abcdefg", 1, 9);
-        error("4", "leg 00005;", 1, 4);
-        error("4", "leg 12345678901234567890;", 1, 4);
-        error("4", "leg 5,", 1, 5);
-        error("4", "legA 5;", 1, 3);
-        error("4", "Leg 5;", 1, 0);
-        error("4", "leg\t5;", 1, 3);
-        error("4", "leg\r5;", 1, 3);
-        error("4", "leg 5;\0", 1, 6);
-        error("4", "leg `;", 1, 4);
-        error("4", "leg {;", 1, 4);
-        error("4", "leg /;", 1, 4);
-        error("4", "leg :;", 1, 4);
-        error("4", "leg -5;", 1, 4);
-        error("4", "leg 5;leg 55555", 4, 6);
-        error("4", "up abcdefg", 4, 0);
+        Check.error("4", "flanges 5;", 1, 0);
+        Check.error("4", "leg 5;   abcdefg", 1, 9);
+        Check.error("4", "leg 00005;", 1, 4);
+        Check.error("4", "leg 12345678901234567890;", 1, 4);
+        Check.error("4", "leg 5,", 1, 5);
+        Check.error("4", "legA 5;", 1, 3);
+        Check.error("4", "Leg 5;", 1, 0);
+        Check.error("4", "leg\t5;", 1, 3);
+        Check.error("4", "leg\r5;", 1, 3);
+        Check.error("4", "leg 5;\0", 1, 6);
+        Check.error("4", "leg `;", 1, 4);
+        Check.error("4", "leg {;", 1, 4);
+        Check.error("4", "leg /;", 1, 4);
+        Check.error("4", "leg :;", 1, 4);
+        Check.error("4", "leg -5;", 1, 4);
+        Check.error("4", "leg 5;leg 55555", 4, 6);
+        Check.error("4", "up abcdefg", 4, 0);
     }
 
     private static void otherTokens() {
-        error("4", "legs 5;", 2, 0);
-        error("4", "le 5;", 2, 0);
-        error("4", "keg 5;", 2, 0);
-        error("4", "azza 5;", 2, 0);
-        error("4", "flang 5;", 2, 0);
-        error("4", "5;", 2, 0);
-        error("4", ";", 2, 0);
-        error("4", "leg 5;;", 2, 6);
-        error("4", "leg leg 5;", 2, 4);
-        error("4", "leg ;", 2, 4);
-        error("4", "leg 5 6;", 2, 6);
-        error("4", "leg 5 up 6;", 2, 6);
-        error("4", "sheet 1 2;", 2, 9);
-        error("4", "sheet 1 2 3 4;", 2, 12);
-        error("4", "flange 5 0;", 2, 9);
-        error("4", "beam 5 6 7;", 2, 9);
-        error("4", "cost 5 6;", 2, 8);
-        error("4", "back 5;", 2, 6);
-        error("4", "cost cost", 2, 5);
+        Check.error("4", "legs 5;", 2, 0);
+        Check.error("4", "le 5;", 2, 0);
+        Check.error("4", "keg 5;", 2, 0);
+        Check.error("4", "azza 5;", 2, 0);
+        Check.error("4", "flang 5;", 2, 0);
+        Check.error("4", "5;", 2, 0);
+        Check.error("4", ";", 2, 0);
+        Check.error("4", "leg 5;;", 2, 6);
+        Check.error("4", "leg leg 5;", 2, 4);
+        Check.error("4", "leg ;", 2, 4);
+        Check.error("4", "leg 5 6;", 2, 6);
+        Check.error("4", "leg 5 up 6;", 2, 6);
+        Check.error("4", "sheet 1 2;", 2, 9);
+        Check.error("4", "sheet 1 2 3 4;", 2, 12);
+        Check.error("4", "flange 5 0;", 2, 9);
+        Check.error("4", "beam 5 6 7;", 2, 9);
+        Check.error("4", "cost 5 6;", 2, 8);
+        Check.error("4", "back 5;", 2, 6);
+        Check.error("4", "cost cost", 2, 5);
     }
 
     private static void ranges() {
-        error("4", "leg 0;", 3, 4);
-        error("4", "leg 1;up 0;", 3, 9);
-        error("4", "leg 1;down 0000;", 3, 11);
-        error("4", "sheet 0 1 1;", 3, 6);
-        error("4", "sheet 61 1 1;", 3, 6);
-        error("4", "sheet 1 201 1;", 3, 8);
-        error("4", "sheet 1 1 101;", 3, 10);
-        error("4", "back 1000 5;", 3, 5);
-        error("4", "back 0 301;", 3, 7);
-        error("4", "back 5 0;back 5 0;", 3, 14);
-        error("4", "back 5 0;back 4 0;", 3, 14);
-        error("4", "back 999 0;back 999 0;", 3, 16);
-        error("4", "gauge 5 4;", 3, 8);
-        error("4", "cost 100 0 0;", 3, 5);
-        error("4", "cost 0 100 0;", 3, 7);
-        error("4", "cost 0 0 100;", 3, 9);
+        Check.error("4", "leg 0;", 3, 4);
+        Check.error("4", "leg 1;up 0;", 3, 9);
+        Check.error("4", "leg 1;down 0000;", 3, 11);
+        Check.error("4", "sheet 0 1 1;", 3, 6);
+        Check.error("4", "sheet 61 1 1;", 3, 6);
+        Check.error("4", "sheet 1 201 1;", 3, 8);
+        Check.error("4", "sheet 1 1 101;", 3, 10);
+        Check.error("4", "back 1000 5;", 3, 5);
+        Check.error("4", "back 0 301;", 3, 7);
+        Check.error("4", "back 5 0;back 5 0;", 3, 14);
+        Check.error("4", "back 5 0;back 4 0;", 3, 14);
+        Check.error("4", "back 999 0;back 999 0;", 3, 16);
+        Check.error("4", "gauge 5 4;", 3, 8);
+        Check.error("4", "cost 100 0 0;", 3, 5);
+        Check.error("4", "cost 0 100 0;", 3, 7);
+        Check.error("4", "cost 0 0 100;", 3, 9);
         SheetFolder x = Check.folder("sheet 60 200 100;leg 9999;up 9999;down 1;back 0 300;back 1 0;back 999 300;"
                 + "beam 9999 0;table 0 9999;wing 9999 9999;gauge 9999 9999;gauge 0 0;flange 9999;cost 99 99 99;");
         Check.same("3 the greatest numbers", x.legs(), 3);
@@ -171,38 +164,38 @@ public final class TextTest {
     }
 
     private static void order() {
-        error("4", "up 5;", 4, 0);
-        error("4", " down 5;leg 5;", 4, 1);
-        error("4", "leg 5;up 5;leg 5;", 4, 11);
-        error("4", "up 0", 4, 0);
+        Check.error("4", "up 5;", 4, 0);
+        Check.error("4", " down 5;leg 5;", 4, 1);
+        Check.error("4", "leg 5;up 5;leg 5;", 4, 11);
+        Check.error("4", "up 0", 4, 0);
         Check.folder("beam 1 1;leg 5;back 5 5;up 5;");
     }
 
     private static void counts() {
         String eight = "leg 1;up1;up1;up1;up1;up1;up1;up1;down1;";
         Check.same("3 eight bends", Check.load(new SheetFolder(), eight), 8);
-        error("4", eight + "up 1;", 5, eight.length());
-        error("4", eight + "down", 5, eight.length());
-        error("4", eight + "leg", 4, eight.length());
+        Check.error("4", eight + "up 1;", 5, eight.length());
+        Check.error("4", eight + "down", 5, eight.length());
+        Check.error("4", eight + "leg", 4, eight.length());
         StringBuilder backs = new StringBuilder();
         for (int i = 0; i < 8; i++) {
             backs.append("back ").append(i).append(" 0;");
         }
         Check.same("3 eight backs", Check.load(new SheetFolder(), backs.toString()), 0);
-        error("4", backs + "back 999 0;", 5, backs.length());
-        error("4", backs + "backs", 2, backs.length());
+        Check.error("4", backs + "back 999 0;", 5, backs.length());
+        Check.error("4", backs + "backs", 2, backs.length());
     }
 
     private static void ends() {
-        error("4", "leg", 2, 3);
-        error("4", "leg ", 2, 4);
-        error("4", "leg 5", 2, 5);
-        error("4", "leg 5 \n ", 2, 8);
-        error("4", "sheet 1 2", 2, 9);
-        error("4", "leg 5;up", 2, 8);
+        Check.error("4", "leg", 2, 3);
+        Check.error("4", "leg ", 2, 4);
+        Check.error("4", "leg 5", 2, 5);
+        Check.error("4", "leg 5 \n ", 2, 8);
+        Check.error("4", "sheet 1 2", 2, 9);
+        Check.error("4", "leg 5;up", 2, 8);
         Check.same("3 spaces alone", Check.load(new SheetFolder(), "  \n\n  "), 0);
         String full = "leg 5;" + " ".repeat(593) + ";";
-        error("4", full, 2, 599);
+        Check.error("4", full, 2, 599);
         Check.same("3 600 bytes", Check.load(new SheetFolder(), "leg 5;" + " ".repeat(588) + "up 5;\n"), 1);
     }
 
