@@ -1,3 +1,6 @@
+import java.util.List;
+import java.util.function.Consumer;
+
 /** Promises 47 to 55: the edits and undo. */
 public final class EditsTest {
     private static final String TEXT = "leg 100;up 50;up 100;beam 200 30;cost 3 2 3;";
@@ -166,33 +169,29 @@ public final class EditsTest {
     }
 
     private static void undoing() {
-        SheetFolder x = Check.folder(TEXT + "back 5 5;back 15 25;");
-        String[] pictures = new String[9];
-        pictures[0] = Check.picture(x);
-        x.setLeg(0, 90);
-        pictures[1] = Check.picture(x);
-        x.setDirection(1, false);
-        pictures[2] = Check.picture(x);
-        x.setDirection(1, true);
-        pictures[3] = Check.picture(x);
-        x.setTool(2, 5, 6);
-        pictures[4] = Check.picture(x);
-        x.setSheet(9, 9, 9);
-        pictures[5] = Check.picture(x);
-        x.setCost(7, 8, 9);
-        pictures[6] = Check.picture(x);
-        x.fold(0, 0);
-        pictures[7] = Check.picture(x);
-        x.foldNext();
-        pictures[8] = Check.picture(x);
-        x.unfold();
-        for (int left = 8; left >= 0; left--) {
-            Check.same("55 edits left", x.undo(), left);
-            Check.sameText("55 as before edit " + left, Check.picture(x), pictures[left]);
+        List<Consumer<SheetFolder>> edits = List.of(x -> x.setLeg(0, 90), x -> x.setDirection(1, false),
+                x -> x.setDirection(1, true), x -> x.setTool(2, 5, 6), x -> x.setSheet(9, 9, 9), x -> x.setCost(7, 8, 9),
+                x -> x.fold(0, 0), SheetFolder::foldNext, SheetFolder::unfold);
+        for (int kept = 0; kept < edits.size(); kept++) {
+            SheetFolder x = edited(edits, edits.size());
+            for (int left = edits.size() - 1; left >= kept; left--) {
+                Check.same("55 edits left", x.undo(), left);
+            }
+            Check.sameText("55 as before edit " + kept, Check.picture(x), Check.picture(edited(edits, kept)));
         }
-        Check.same("55 nothing to undo", x.undo(), SheetFolder.NONE);
-        Check.sameText("55 nothing undone", Check.picture(x), pictures[0]);
+        SheetFolder none = edited(edits, 0);
+        String before = Check.picture(none);
+        Check.same("55 nothing to undo", none.undo(), SheetFolder.NONE);
+        Check.sameText("55 nothing undone", Check.picture(none), before);
         Check.same("55 a new object", new SheetFolder().undo(), SheetFolder.NONE);
+    }
+
+    private static SheetFolder edited(List<Consumer<SheetFolder>> edits, int count) {
+        SheetFolder x = Check.folder(TEXT + "back 5 5;back 15 25;");
+        for (Consumer<SheetFolder> edit : edits.subList(0, count)) {
+            edit.accept(x);
+        }
+        return x;
     }
 
     private static void remembering() {
