@@ -130,6 +130,12 @@ public final class StepBoundsTest {
             x.fold(bend, bend & 1);
         }
         Check.same("27 seven changes of all", x.costSoFar(), 7 * 297);
+        x.unfold();
+        Check.same("27 flat again", x.costSoFar(), 0);
+        x.fold(7, 0);
+        Check.same("27 the first step again", x.costSoFar(), 0);
+        x.fold(5, 0);
+        Check.same("27 a move alone", x.costSoFar(), 99);
         SheetFolder free = Check.folder(Check.NINE_LEGS + "cost 0 0 0;");
         for (int bend = 0; bend < 8; bend++) {
             Check.same("47 nothing costs", free.fold(bend, bend & 1), 0);
